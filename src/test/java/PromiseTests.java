@@ -117,6 +117,12 @@ public final class PromiseTests {
         return and(new String[] {"type a:a b:b c:c d:d e:e f:f g:g h:h i:i j:j k:k l:l", "load()"}, more);
     }
 
+    /** Steps that make the largest page: twelve words of four parts, a to d, a gap as the last one of each. */
+    private static String[] largest(String... more) {
+        String[] steps = {"type a-b-c-d:x-y-z- a-b-c-d:x-y-z- a-b-c-d:x-y-z-", "load()"};
+        return and(and(steps, "insert(0)", "insert(0)", "insert(0)"), more);
+    }
+
     /** Steps that fill the lexicon with the sixteen parts a to p, and leave the words q:q and e:f. */
     private static String[] fullLexicon(String... more) {
         String[] steps = {"type a-b-c-d:a-b-c-d e-f-g-h:e-f-g-h i-j-k-l:i-j-k-l", "load()"};
@@ -188,7 +194,7 @@ public final class PromiseTests {
             {"a-b-c-d-e", "7"}, {"a=b=c=d=", "7"}, {"a-b:c=d", "5"}, {"a=b:-", "4"}, {"a-b:c", "5"}, {"a-b:", "4"},
             {"a-b:c d", "5"}, {"a-b:c-d-", "7"}, {"a:-", "2"}, {"a-b=c:--", "7"}, {"a-b=c:-", "7"},
             {"a b c d e f g h i j k l m", "23"}, {"a b c d e f g h i j k l ", "23"}, {"a\u00ff", "1"}, {"a\u0000", "1"},
-            {"a b c d e f g h i j k:- l", "22"}, {"a b c d e f g h i j k l:x y", "25"},
+            {"a-b-c-d:a-b-c-d-", "15"}, {"a b c d e f g h i j k:- l", "22"}, {"a b c d e f g h i j k l:x y", "25"},
         };
         for (String[] text : dues) {
             on("type " + text[0]);
@@ -198,6 +204,10 @@ public final class PromiseTests {
         due("errorPosition()", -9);
         on("type " + "abcdefgh ".repeat(6) + "abcde-");
         due("errorPosition()", 60);
+        on("type a-b c", "errorPosition()", "type a:-");
+        due("errorPosition()", 2);
+        step("type a b:-");
+        due("errorPosition()", 4);
         onlyTells("errorPosition()", "0", RICH);
         onlyTells("errorPosition()", "-9", and(RICH, "type q-r:x-y s"));
     }
@@ -250,6 +260,10 @@ public final class PromiseTests {
         due("about(8)", 0);
         on("type a:bc a:b a:bcd", "load()", "learn(0, 0)");
         due("about(8)", 2);
+        on("type a-b:x-y b:z a:z", "load()", "learn(1, 0)", "learn(2, 0)");
+        due("about(8)", 2);
+        on(largest("learn(0, 0)", "learn(0, 1)"));
+        dueNumbers("12 48 12 1 4 8 0 2 0 30 2 1");
         on("type abcdefgh-b:-bcd a", "load()", "set(9, 10)", "set(11, 0)");
         due("about(6)", 0);
         step("set(11, 1)");
@@ -540,6 +554,10 @@ public final class PromiseTests {
         step("type ab");
         due("setFree(0)", 2);
         due("word(0, 7)", 2);
+        step("type x");
+        due("setFree(1)", 1);
+        due("word(1, 5)", 1);
+        due("undo()", 4);
         step("clearText()");
         due("setFree(0)", 0);
         due("word(0, 5)", 1);
@@ -552,6 +570,8 @@ public final class PromiseTests {
         refuses("setFree(0)", STATE, and(RICH, "type 1234567890123456789012345"));
         refuses("setFree(0)", STATE, and(RICH, "type a\u001fb"));
         refuses("setFree(0)", STATE, and(RICH, "type a\u007f"));
+        refuses("setFree(0)", STATE, and(RICH, "type \u001fa"));
+        refuses("setFree(2)", STATE, and(RICH, "type \u00e9"));
         refuses("setFree(3)", INDEX, and(RICH, "type \u007f"));
     }
 
@@ -658,6 +678,13 @@ public final class PromiseTests {
         due("undo()", 3);
         due("undo()", 2);
         due("about(2)", 3);
+        on(largest("learn(0, 0)"));
+        due("fillGaps()", 0);
+        step("type w");
+        step("setGloss(5, 3)");
+        step("learn(5, 3)");
+        due("fillGaps()", 11);
+        duePart(11, 3, "d:w");
         on();
         due("fillGaps()", 0);
         due("undo()", 0);
@@ -718,6 +745,11 @@ public final class PromiseTests {
         due("gap(2147483647)", -9);
         on("type a b c d e f g h i j k a-b-c-d:x-x-x-", "load()");
         due("gap(11)", 113);
+        on(largest());
+        due("gap(11)", 113);
+        due("gap(12)", -9);
+        step("remove(11)");
+        due("gap(11)", -9);
         on();
         due("gap(0)", -9);
         refuses("gap(-1)", ARGUMENT, RICH);
@@ -739,6 +771,10 @@ public final class PromiseTests {
         due("mostUsed()", 20);
         on("type a b c d e f g h i j x z-z", "load()");
         due("mostUsed()", 110);
+        on(largest());
+        due("mostUsed()", 0);
+        on("type b a a", "load()", "remove(2)", "type b", "insert(2)", "remove(1)", "remove(1)");
+        due("mostUsed()", 0);
         onlyTells("mostUsed()", "10", RICH);
     }
 
@@ -772,6 +808,20 @@ public final class PromiseTests {
         due("widthFor(5)", 29);
         due("widthFor(6)", 10);
         due("widthFor(3)", -9);
+        on("type abcdefgh-abcdefgh-abcdefgh-abc abcdefgh-abcdefgh-abcdefg", "load()");
+        due("widthFor(2)", 57);
+        step("type q");
+        step("insert(2)");
+        due("widthFor(2)", 60);
+        step("set(10, 1)");
+        due("widthFor(2)", 58);
+        step("set(10, 3)");
+        due("widthFor(2)", -9);
+        due("widthFor(4)", 29);
+        on(largest());
+        due("widthFor(4)", 52);
+        due("widthFor(2)", -9);
+        due("widthFor(24)", 10);
         refuses("widthFor(-1)", ARGUMENT, RICH);
         refuses("widthFor(100)", ARGUMENT, RICH);
         onlyTells("widthFor(4)", "-9", RICH);
@@ -789,6 +839,12 @@ public final class PromiseTests {
         due("empty()", 6);
         step("set(9, 16)");
         due("empty()", 5);
+        on("type a", "load()");
+        due("empty()", 29);
+        step("set(9, 10)");
+        due("empty()", 9);
+        on(largest());
+        due("empty()", 20);
         on("type abcdefgh ab", "load()", "set(9, 12)");
         due("empty()", 0);
         onlyTells("empty()", "27", RICH);
@@ -864,25 +920,35 @@ public final class PromiseTests {
     void promise30() {
         on();
         due("simulate(1, 99)", 0);
-        on("type abcdefgh=abcdefgh x", "load()");
-        checks.same(told, sheet.ask("simulate(1, 1)"), String.valueOf(simulated(1, 1)));
+        String wide = "abcdefgh=abcdefgh x";
+        on("type " + wide, "load()");
         for (long seed : new long[] {0, 1, -1, 7, Long.MAX_VALUE, Long.MIN_VALUE, 1234567890123L}) {
-            due("simulate(" + seed + ", 99)", simulated(seed, 99));
-            due("simulate(" + seed + ", 13)", simulated(seed, 13));
+            due("simulate(" + seed + ", 99)", simulated(wide, "", seed, 99));
+            due("simulate(" + seed + ", 1)", simulated(wide, "", seed, 1));
         }
         dueNumbers("2 3 3 1 1 2 0 0 0 30 2 1");
+        String leveled = "abcdef-a:-abcdef abcdef-b:-abcdef abcdef-c:-abcdef";
+        on("type " + leveled, "load()");
+        for (long seed = 0; seed < 10; seed++) {
+            due("simulate(" + seed + ", 99)", simulated(leveled, "", seed, 99));
+        }
+        on("type a", "load()", "type " + "x".repeat(24), "setFree(0)");
+        due("simulate(9, 99)", simulated("a", "x".repeat(24), 9, 99));
+        on(largest());
+        step("simulate(9, 99)");
         refuses("simulate(1, 0)", ARGUMENT, RICH);
         refuses("simulate(1, 100)", ARGUMENT, RICH);
         onlyTells("simulate(5, 99)", Sheet.after(RICH).ask("simulate(5, 99)"), RICH);
     }
 
-    /** The rounds of a simulation of the page "abcdefgh=abcdefgh x", by actions on a page of its own. */
-    private static int simulated(long seed, int m) {
+    /** The rounds of a simulation, by actions on a page of some words, the word 0 with a free line. */
+    private static int simulated(String words, String free, long seed, int m) {
         GlossRows rows = new GlossRows();
-        for (char c : "abcdefgh=abcdefgh x".toCharArray()) {
-            rows.append(c);
-        }
-        rows.load();
+        type(rows, words);
+        int count = rows.load();
+        rows.clearText();
+        type(rows, free);
+        rows.setFree(0);
         long x = seed;
         int sum = 0;
         for (int round = 0; round < m; round++) {
@@ -893,17 +959,25 @@ public final class PromiseTests {
                 case 0 -> rows.set(9, 10 + rest % 51);
                 case 1 -> rows.set(11, rest % 2);
                 case 2 -> rows.set(10, 1 + rest % 3);
-                default -> {
-                    if (rows.word(rest % 2, 5) == 1) {
-                        rows.join(rest % 2);
-                    } else {
-                        rows.end(rest % 2);
-                    }
-                }
+                default -> turnEnd(rows, rest % count);
             }
             sum += rows.about(5);
         }
         return sum;
+    }
+
+    private static void type(GlossRows rows, String text) {
+        for (char c : text.toCharArray()) {
+            rows.append(c);
+        }
+    }
+
+    private static void turnEnd(GlossRows rows, int i) {
+        if (rows.word(i, 5) == 1) {
+            rows.join(i);
+        } else {
+            rows.end(i);
+        }
     }
 
     void promise31() {
