@@ -17,6 +17,11 @@ final class Checks {
         }
     }
 
+    /** How many checks there were. */
+    int count() {
+        return passed + failed;
+    }
+
     void holds(String what, boolean so) {
         same(what, so, true);
     }

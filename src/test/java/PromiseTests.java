@@ -1,147 +1,20 @@
-import java.lang.reflect.InvocationTargetException;
-import java.lang.reflect.Method;
-
 /**
  * The promises 1 to 32, one method each: ordinary calls, the edges that the document names, and wrong
  * calls, which must throw what is named first and change nothing.
  */
-public final class PromiseTests {
-    private static final String INDEX = "IndexOutOfBoundsException";
-    private static final String ARGUMENT = "IllegalArgumentException";
-    private static final String STATE = "IllegalStateException";
+public final class PromiseTests extends Bench {
+    private PromiseTests() {
+        super("PromiseTests");
+    }
 
-    /** Three words in two sentences with a free line, two entries, a save slot, remembered states. */
-    private static final String[] RICH = {
-        "type kita-na=s:see-x=pl a b:c", "load()", "learn(0, 0)", "learn(2, 0)", "type Free line!", "setFree(1)",
-        "save(0)", "set(9, 20)", "set(10, 1)",
-    };
-
-    private final Checks checks = new Checks("PromiseTests");
-    private Sheet sheet = Sheet.after();
-    private String told = "";
-
-    public static void main(String[] args) throws IllegalAccessException {
+    public static void main(String[] args) {
         new PromiseTests().runAll();
     }
-
-    private void runAll() throws IllegalAccessException {
-        for (int promise = 1; promise <= 32; promise++) {
-            told = "promise " + promise;
-            Method method;
-            try {
-                method = PromiseTests.class.getDeclaredMethod(String.format("promise%02d", promise));
-                method.invoke(this);
-            } catch (NoSuchMethodException | InvocationTargetException e) {
-                checks.same(told, e.getCause() == null ? e : e.getCause(), "tests that run");
-            }
-        }
-        checks.close();
-    }
-
-    // ---- how it is asked
-
-    /** Begins anew, with a new object and some steps. */
-    private void on(String... steps) {
-        sheet = Sheet.after(steps);
-    }
-
-    private void due(String call, Object due) {
-        checks.same(told + ": " + call, sheet.ask(call), due);
-    }
-
-    private void step(String step) {
-        sheet.step(step);
-    }
-
-    private void dueNumbers(String due) {
-        checks.same(told + ": about(0) to about(11)", sheet.numbers().trim(), due);
-    }
-
-    private void dueRows(String... rows) {
-        checks.same(told + ": the rows", sheet.rows(), rows.length == 0 ? "" : String.join("\n", rows) + "\n");
-    }
-
-    private void duePart(int i, int p, String due) {
-        checks.same(told + ": part " + p + " of word " + i, sheet.partShown(i, p), due);
-    }
-
-    private void dueEntries(String... due) {
-        StringBuilder entries = new StringBuilder();
-        int size = Integer.parseInt(sheet.ask("about(7)"));
-        for (int e = 0; e < size; e++) {
-            entries.append(e == 0 ? "" : " ").append(sheet.entryShown(e));
-        }
-        checks.same(told + ": the lexicon", entries, String.join(" ", due));
-    }
-
-    /** A call behind some steps throws an exception, and all that can be asked then is as without it. */
-    private void refuses(String call, String exception, String... steps) {
-        Sheet[] twins = twins(call, exception, steps);
-        alike(call, twins[0].state() + twins[0].rows(), twins[1].state() + twins[1].rows());
-        twins = twins(call, exception, steps);
-        for (int k = 0; k < 15; k++) {
-            alike(call, twins[0].ask("undo()") + twins[0].numbers(), twins[1].ask("undo()") + twins[1].numbers());
-        }
-        twins = twins(call, exception, steps);
-        for (String later : new String[] {"errorPosition()", "setFree(0)", "insert(0)", "clearText()", "restore(0)"}) {
-            alike(call, twins[0].ask(later) + twins[0].state(), twins[1].ask(later) + twins[1].state());
-        }
-        twins = twins(call, exception, steps);
-        alike(call, twins[0].ask("restore(1)") + twins[0].state(), twins[1].ask("restore(1)") + twins[1].state());
-    }
-
-    private Sheet[] twins(String call, String exception, String... steps) {
-        Sheet[] twins = {Sheet.after(steps), Sheet.after(steps)};
-        checks.same(told + ": " + call, twins[0].ask(call), exception);
-        return twins;
-    }
-
-    private void alike(String call, String with, String without) {
-        checks.same(told + ": what is there behind " + call, with, without);
-    }
-
-    /** A call changes nothing, and is no action. */
-    private void onlyTells(String call, String due, String... steps) {
-        refuses(call, due, steps);
-    }
-
-    private static String[] and(String[] steps, String... more) {
-        String[] all = new String[steps.length + more.length];
-        System.arraycopy(steps, 0, all, 0, steps.length);
-        System.arraycopy(more, 0, all, steps.length, more.length);
-        return all;
-    }
-
-    /** Steps that load twelve words of one part, a to l, each with its letter as its gloss. */
-    private static String[] twelve(String... more) {
-        return and(new String[] {"type a:a b:b c:c d:d e:e f:f g:g h:h i:i j:j k:k l:l", "load()"}, more);
-    }
-
-    /** Steps that make the largest page: twelve words of four parts, a to d, a gap as the last one of each. */
-    private static String[] largest(String... more) {
-        String[] steps = {"type a-b-c-d:x-y-z- a-b-c-d:x-y-z- a-b-c-d:x-y-z-", "load()"};
-        return and(and(steps, "insert(0)", "insert(0)", "insert(0)"), more);
-    }
-
-    /** Steps that fill the lexicon with the sixteen parts a to p, and leave the words q:q and e:f. */
-    private static String[] fullLexicon(String... more) {
-        String[] steps = {"type a-b-c-d:a-b-c-d e-f-g-h:e-f-g-h i-j-k-l:i-j-k-l", "load()"};
-        steps = and(steps, "type m-n-o-p:m-n-o-p", "insert(3)");
-        for (int i = 0; i < 4; i++) {
-            for (int p = 0; p < 4; p++) {
-                steps = and(steps, "learn(" + i + ", " + p + ")");
-            }
-        }
-        steps = and(steps, "remove(0)", "remove(0)", "remove(0)", "remove(0)", "type q:q e:f", "insert(0)");
-        return and(steps, more);
-    }
-
-    // ---- the promises
 
     void promise01() {
         on();
         dueNumbers("0 0 0 0 0 0 0 0 0 30 2 1");
-        checks.same(told + ": NONE", GlossRows.NONE, -9);
+        same("NONE", GlossRows.NONE, -9);
         due("undo()", STATE);
         due("restore(0)", STATE);
         due("restore(1)", STATE);
@@ -198,7 +71,7 @@ public final class PromiseTests {
         };
         for (String[] text : dues) {
             on("type " + text[0]);
-            checks.same(told + ": errorPosition() of \"" + text[0] + "\"", sheet.ask("errorPosition()"), text[1]);
+            same("errorPosition() of \"" + text[0] + "\"", ask("errorPosition()"), text[1]);
         }
         on("type " + "abcdefgh ".repeat(6) + "abcdef");
         due("errorPosition()", -9);
@@ -289,9 +162,9 @@ public final class PromiseTests {
         for (int i = 0; i < 3; i++) {
             StringBuilder numbers = new StringBuilder();
             for (int what = 0; what <= 7; what++) {
-                numbers.append(sheet.ask("word(" + i + ", " + what + ")")).append(what < 7 ? " " : "");
+                numbers.append(ask("word(" + i + ", " + what + ")")).append(what < 7 ? " " : "");
             }
-            checks.same(told + ": word(" + i + ", 0 to 7)", numbers, dues[i]);
+            same("word(" + i + ", 0 to 7)", numbers, dues[i]);
         }
         step("set(11, 0)");
         due("word(0, 1)", 9);
@@ -325,9 +198,9 @@ public final class PromiseTests {
             String place = due.substring(0, 4);
             StringBuilder numbers = new StringBuilder(place + ":");
             for (int what = 0; what <= 3; what++) {
-                numbers.append(' ').append(sheet.ask("part(" + place + ", " + what + ")"));
+                numbers.append(' ').append(ask("part(" + place + ", " + what + ")"));
             }
-            checks.same(told + ": part(" + place + ", 0 to 3)", numbers, due);
+            same("part(" + place + ", 0 to 3)", numbers, due);
         }
         on("type abcdefgh:........", "load()");
         due("part(0, 0, 0)", 8);
@@ -398,15 +271,6 @@ public final class PromiseTests {
         onlyTells("row(3, 2)", "1", RICH);
         on();
         due("row(0, 0)", INDEX);
-    }
-
-    private void dueRowNumbers(String... dues) {
-        due("about(5)", dues.length);
-        for (int r = 0; r < dues.length; r++) {
-            String row = "row(" + r + ", ";
-            String numbers = sheet.ask(row + "0)") + " " + sheet.ask(row + "1)") + " " + sheet.ask(row + "2)");
-            checks.same(told + ": row(" + r + ", 0 to 2)", numbers, dues[r]);
-        }
     }
 
     void promise12() {
