@@ -21,6 +21,11 @@ abstract class Bench {
         "save(0)", "set(9, 20)", "set(10, 1)",
     };
 
+    /** Calls that tell the text and what is in the save slots. */
+    private static final String[] LATER = {
+        "errorPosition()", "setFree(0)", "insert(0)", "clearText()", "restore(0)", "restore(1)",
+    };
+
     private final Checks checks;
     private Sheet sheet = Sheet.after();
     private String name = "";
@@ -120,7 +125,7 @@ abstract class Bench {
         }
     }
 
-    /** All of the state that calls can tell, without its rows. */
+    /** All of the state that calls can tell, with the rows of free lines alone. */
     final String state() {
         return sheet.state();
     }
@@ -135,12 +140,10 @@ abstract class Bench {
         for (int k = 0; k < 15; k++) {
             alike(call, twins[0].ask("undo()") + twins[0].numbers(), twins[1].ask("undo()") + twins[1].numbers());
         }
-        twins = twins(call, exception, steps);
-        for (String later : new String[] {"errorPosition()", "setFree(0)", "insert(0)", "clearText()", "restore(0)"}) {
+        for (String later : LATER) {
+            twins = twins(call, exception, steps);
             alike(call, twins[0].ask(later) + twins[0].state(), twins[1].ask(later) + twins[1].state());
         }
-        twins = twins(call, exception, steps);
-        alike(call, twins[0].ask("restore(1)") + twins[0].state(), twins[1].ask("restore(1)") + twins[1].state());
     }
 
     /** A call answers, changes nothing, and is no action. */

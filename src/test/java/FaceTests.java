@@ -31,9 +31,12 @@ public final class FaceTests {
 
     /** What LANGUAGE.md rules out, as patterns of the source without its comments and texts. */
     private static final String[] RULED_OUT = {
-        "->", "::", "\\bimport\\b", "\\bpackage\\b", "\\bsynchronized\\b", "\\bassert\\b", "\\bfinally\\b", "\\btry\\b",
-        "\\bcatch\\b", "\\bstatic\\s*\\{", "\\bextends\\b", "\\bMath\\.\\w+Exact\\b", "\\bObject\\b", "\\bSystem\\.(?!arraycopy)",
-        "\\.hashCode\\(", "\\.toString\\(", "\\.getMessage\\(", "\"\\s*\\+", "\\+\\s*\"", "\\bwhile\\s*\\(\\s*true\\s*\\)",
+        "(?m)^(?!\\s*(case|default)\\b).*->", "::", "\\bimport (?!java\\.util\\.\\w+;)", "\\bpackage\\b", "\\bsynchronized\\b",
+        "\\bassert\\b", "\\bfinally\\b", "\\bstatic\\s*\\{", "\\bMath\\.\\w+Exact\\b", "\\bObject\\b",
+        "\\bSystem\\.(?!arraycopy)", "\\.hashCode\\(", "\\.getMessage\\(", "\"\\s*\\+", "\\+\\s*\"",
+        "\\bwhile\\s*\\(\\s*true\\s*\\)",
+        "\\bcatch\\s*\\([^)]*\\b(ArrayIndexOutOfBounds|IndexOutOfBounds|NullPointer|Arithmetic|ClassCast|NegativeArraySize"
+            + "|ArrayStore|Runtime)?(Exception|Throwable)\\b",
     };
 
     private final Checks checks = new Checks("FaceTests");
@@ -92,10 +95,11 @@ public final class FaceTests {
         for (Class<?> one : all) {
             int modifiers = one.getModifiers();
             checks.holds(one + " is static", one == GlossRows.class || Modifier.isStatic(modifiers));
-            checks.holds(one + " is hidden", one == GlossRows.class || Modifier.isPrivate(modifiers));
+            boolean isOpen = Modifier.isPublic(modifiers) || Modifier.isProtected(modifiers);
+            checks.holds(one + " is hidden", one == GlossRows.class || !isOpen);
             for (Method method : one.getDeclaredMethods()) {
-                boolean isFace = Modifier.isPublic(method.getModifiers());
-                checks.holds(method + " has a name of its own", isFace || !names.contains(method.getName()));
+                boolean isHidden = Modifier.isPrivate(method.getModifiers());
+                checks.holds(method + " has a name of its own", !isHidden || !names.contains(method.getName()));
                 checks.holds(method + " has at most seven parameters", method.getParameterCount() <= 7);
             }
             for (Field field : one.getDeclaredFields()) {

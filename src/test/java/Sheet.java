@@ -134,7 +134,7 @@ final class Sheet {
         return all.toString();
     }
 
-    /** All of the state that calls can tell, without its rows. */
+    /** All of the state that calls can tell, with the rows of free lines alone. */
     String state() {
         StringBuilder all = new StringBuilder(numbers());
         int words = Integer.parseInt(ask("about(0)"));
@@ -148,6 +148,12 @@ final class Sheet {
         int entries = Integer.parseInt(ask("about(7)"));
         for (int e = 0; e < entries; e++) {
             all.append(" / ").append(entryShown(e));
+        }
+        int rows = Integer.parseInt(ask("about(5)"));
+        for (int r = 0; r < rows; r++) {
+            if (ask("row(" + r + ", 0)").equals("2")) {
+                all.append(" \"").append(rowShown(r)).append('"');
+            }
         }
         return all.toString();
     }

@@ -379,6 +379,8 @@ public final class TermTests extends Bench {
         due("word(2, 1)", 6);
         step("set(11, 0)");
         dueRows("a  abc  a-bc=d", "*  xyz  *-*=* ");
+        on(loaded("a-b:xyz- c", "set(11, 0)"));
+        dueRows("a-b    c", "xyz-*  *");
         on(loaded("abc", "type x", "setGloss(0, 0)", "clearText()", "setGloss(0, 0)"));
         due("at(1, 0)", (int) '*');
         due("part(0, 0, 1)", 0);
@@ -403,8 +405,10 @@ public final class TermTests extends Bench {
         for (int i = 0; i < 5; i++) {
             due("word(" + i + ", 1)", widths[i]);
         }
-        on(loaded("abcdefgh-a:x-abcdefgh", "set(11, 0)"));
+        on(loaded("abcdefgh-a:x-abcdefgh a-b:xyz- a-b-c-d:ab---", "set(11, 0)"));
         due("word(0, 1)", 10);
+        due("word(1, 1)", 5);
+        due("word(2, 1)", 8);
     }
 
     void rowsWithTheWay1BeginPartsInTheSameColumn() {
@@ -487,6 +491,9 @@ public final class TermTests extends Bench {
         on(loaded("abcde a:uvwxyz", "set(9, 12)"));
         due("word(1, 2)", 1);
         due("word(1, 3)", 0);
+        on(loaded("a abcdefgh-abc", "set(9, 10)"));
+        due("word(1, 2)", 1);
+        due("word(1, 3)", 0);
     }
 
     void rowsLetAWiderWordStickOut() {
@@ -533,6 +540,8 @@ public final class TermTests extends Bench {
         dueRowNumbers("0 8 0", "1 8 0", "0 3 0", "1 3 0", "2 3 0", "0 1 1", "1 1 1", "2 3 1");
         step("join(1)");
         dueRows("abcdefgh", "*       ", "abc  d", "*    *", "two");
+        on(loaded("a b", "end(0)", "end(1)"));
+        dueRows("a", "*", "b", "*");
     }
 
     void rowsOfAFreeLineHaveWCharacters() {
@@ -620,7 +629,7 @@ public final class TermTests extends Bench {
         dueEntries("a:c", "l:e", "m:a", "n:d", "z:b");
         on(loaded("azz:a b:b ba:c abz:d", "learn(1, 0)", "learn(0, 0)", "learn(3, 0)", "learn(2, 0)"));
         dueEntries("abz:d", "azz:a", "b:b", "ba:c");
-        on(loaded("bbbbbbba:z bbbbbbbb:y abbbbbbb:x", "learn(0, 0)", "learn(1, 0)", "learn(2, 0)"));
+        on(loaded("bbbbbbba:z bbbbbbbb:y abbbbbbb:x", "learn(1, 0)", "learn(0, 0)", "learn(2, 0)"));
         dueEntries("abbbbbbb:x", "bbbbbbba:z", "bbbbbbbb:y");
     }
 
