@@ -1286,7 +1286,7 @@ public final class EdgeTests extends Bench {
     }
 
     void promise26FindsTheWidth60() {
-        says("Promise 26", "10 to 60, with which there are");
+        says("Promise 26", "Returns the smallest W, 10 to 60");
         on(loaded("abcdefgh-abcdefgh-abcdefgh-abc abcdefgh-abcdefgh-abcdefgh", "set(10, 3)", "type a", "insert(0)"));
         due("widthFor(2)", NONE);
         due("widthFor(4)", 34);

@@ -92,7 +92,7 @@ public final class TermTests extends Bench {
     }
 
     void wordsAreNumberedFromZero() {
-        says("Terms, WORDS", "numbered from 0");
+        says("Terms, WORDS", "There are at most 12 words, numbered from 0");
         on(loaded("a bb ccc"));
         due("part(0, 0, 0)", 1);
         due("part(1, 0, 0)", 2);
@@ -119,7 +119,7 @@ public final class TermTests extends Bench {
     }
 
     void wordsHavePartsNumberedFromZero() {
-        says("Terms, WORDS", "numbered from 0; between two parts");
+        says("Terms, WORDS", "A word has 1 to 4 parts, numbered from 0");
         on(loaded("a-bb=ccc-dddd e"));
         for (int p = 0; p < 4; p++) {
             due("part(0, " + p + ", 0)", p + 1);
@@ -157,7 +157,7 @@ public final class TermTests extends Bench {
     }
 
     void wordsHavePartsOfLettersAToZ() {
-        says("Terms, WORDS", "(a to z)");
+        says("Terms, WORDS", "A part has 1 to 8 letters (a to z)");
         on(loaded("az-za"));
         duePart(0, 0, "az:");
         duePart(0, 1, "za:");
@@ -179,7 +179,7 @@ public final class TermTests extends Bench {
     }
 
     void wordsHaveGlossesOfLettersAndTheDot() {
-        says("Terms, WORDS", "(a to z and the dot)");
+        says("Terms, WORDS", "a gloss of 0 to 8 gloss letters (a to z and the dot)");
         on(loaded("a-b:a.z-. c:........"));
         duePart(0, 0, "a:a.z");
         duePart(0, 1, "b:.");
@@ -236,7 +236,7 @@ public final class TermTests extends Bench {
     }
 
     void wordsTheLastHasNoEndOfItsOwn() {
-        says("Terms, WORDS", "the last word has one in any case for what is shown. Words up to");
+        says("Terms, WORDS", "the last word has one in any case for what is shown");
         on(loaded("a b", "type c", "insert(2)"));
         due("word(1, 5)", 0);
         due("about(3)", 1);
@@ -301,7 +301,7 @@ public final class TermTests extends Bench {
     }
 
     void wordsFreeLinesHaveCodes32To126() {
-        says("Terms, WORDS", "(codes 32 to 126)");
+        says("Terms, WORDS", "a free line of 1 to 24 characters (codes 32 to 126)");
         dueFree(" ", true);
         dueFree("~", true);
         dueFree("a ~ b", true);
@@ -324,7 +324,7 @@ public final class TermTests extends Bench {
     }
 
     void rowsHaveAWidthOf30AtFirst() {
-        says("Terms, ROWS", "at first 30");
+        says("Terms, ROWS", "a width W from 10 to 60, at first 30");
         on();
         due("about(9)", 30);
         on(loaded("abcdefgh-abcdefgh abcdefgh-ab"));
@@ -345,7 +345,7 @@ public final class TermTests extends Bench {
     }
 
     void rowsHaveASpaceOf2AtFirst() {
-        says("Terms, ROWS", "at first 2");
+        says("Terms, ROWS", "a space from 1 to 3, at first 2");
         on();
         due("about(10)", 2);
         on(loaded("a b"));
@@ -364,7 +364,7 @@ public final class TermTests extends Bench {
     }
 
     void rowsHaveTheWay1AtFirst() {
-        says("Terms, ROWS", "at first 1");
+        says("Terms, ROWS", "a way, 0 or 1, at first 1");
         on();
         due("about(11)", 1);
         on(loaded("ab-c:x-y"));
@@ -399,7 +399,7 @@ public final class TermTests extends Bench {
     }
 
     void rowsWithTheWay0HaveWordsAsWideAsTheLongerOne() {
-        says("Terms, ROWS", "the width of the word is the length of the longer one. With the way 1");
+        says("Terms, ROWS", "the width of the word is the length of the longer one");
         on(loaded("abc-d:x-yz a-b:xyz-uv ab-c:x-yz a-b abc:xyz", "set(11, 0)"));
         int[] widths = {5, 6, 4, 3, 3};
         for (int i = 0; i < 5; i++) {
