@@ -1337,9 +1337,16 @@ public final class EdgeTests extends Bench {
         due("empty()", 0);
         step("set(9, 60)");
         due("empty()", 48);
-        // The last rows of sentences and the rows of free lines.
+        // The last lines of sentences, and free lines, which are no lines of words.
         on(loaded("a b c", "end(0)", "type x", "setFree(1)"));
         due("empty()", 87);
+        on(largest());
+        due("empty()", 20);
+        // A line that is no longer there does not count.
+        on(loaded("abcdefgh abcdefgh", "set(9, 10)"));
+        due("empty()", 4);
+        step("remove(1)");
+        due("empty()", 2);
     }
 
     // ---- 28: rowsWith
